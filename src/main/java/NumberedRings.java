@@ -264,9 +264,9 @@ public final class NumberedRings {
         if (image != 0 && image != 1) {
             return BAD;
         }
-        Image kept = imageOf(image);
-        kept.standing.copyFrom(now);
-        kept.kept = true;
+        Image chosen = imageOf(image);
+        chosen.standing.copyFrom(now);
+        chosen.kept = true;
         return now.claimed;
     }
 
@@ -274,11 +274,11 @@ public final class NumberedRings {
         if (image != 0 && image != 1) {
             return BAD;
         }
-        Image kept = imageOf(image);
-        if (!kept.kept) {
+        Image chosen = imageOf(image);
+        if (!chosen.kept) {
             return STATE;
         }
-        now.copyFrom(kept.standing);
+        now.copyFrom(chosen.standing);
         past.known = 0;
         return now.claimed;
     }
@@ -530,9 +530,9 @@ public final class NumberedRings {
     }
 
     /**
-     * All that part 2 of the document tells. A standing without events (their row is empty) serves where
-     * the counts alone are needed: to go back by one call, where the events that are left over are the
-     * same, and BY RULE, where every event is filled anyway and the numbers go beyond the row.
+     * All that part 2 of the document tells. A standing whose row of events is empty serves where the
+     * counts alone are needed: to go back by one call, which changes one event at most, and BY RULE, where
+     * every event is filled anyway and the numbers go beyond the row.
      */
     private static final class Standing {
         private static final int SUM_FACTOR = 31;
@@ -552,9 +552,9 @@ public final class NumberedRings {
         final int[] wants = new int[MOST_MAKERS];
         int waiting;
 
-        Standing(Told told, int room) {
+        Standing(Told told, int mostEvents) {
             this.told = told;
-            this.events = new int[room];
+            this.events = new int[Math.max(0, mostEvents)];
         }
 
         void reset() {

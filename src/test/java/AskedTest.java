@@ -174,6 +174,15 @@ public final class AskedTest {
         NumberedRings none = Checks.told("slots 4;maker 1;");
         none.claims(0, 5);
         Checks.due("15: there are no takers", none.steps(), -9);
+        NumberedRings one = Checks.told("slots 4;maker 1;taker 1 0;");
+        one.claims(0, 4);
+        one.claims(0, 4);
+        one.gaps(0);
+        Checks.due("15: one taker can't come far enough", one.steps(), -9);
+        one.gaps(1);
+        one.gaps(2);
+        one.fills(3, 3);
+        Checks.due("15: one taker, one take", one.steps(), 1);
     }
 
     private static void rule() {

@@ -43,6 +43,7 @@ public final class DoneTest {
         Checks.due("5: claims(0, 4) again", x.claims(0, 4), 4);
         Checks.due("5: claims(0, 5) waits", x.claims(0, 5), -9);
         Checks.due("5: claims(1, 1) waits behind", x.claims(1, 1), -9);
+        Checks.due("5: claims(1, 1) waits already", x.claims(1, 1), -2);
     }
 
     private static void claimsFull() {
@@ -178,6 +179,18 @@ public final class DoneTest {
         Checks.due("8: it is first", x.maker(0, 2), 0);
         Checks.due("8: takes(1, 1)", x.takes(1, 1), 1);
         Checks.due("8: it waits yet", x.count(7), 1);
+
+        NumberedRings three = Checks.told("slots 3;maker 1;maker 2;maker 3;taker 1 0;");
+        three.claims(0, 3);
+        three.claims(2, 1);
+        three.claims(1, 1);
+        three.claims(0, 1);
+        for (int number = 0; number < 3; number++) {
+            three.gaps(number);
+        }
+        Checks.due("8: takes(0, 3)", three.takes(0, 3), 3);
+        Checks.due("8: three are let in", three.count(3), 6);
+        Checks.due("8: in the row's order", three.event(3, 1) * 100 + three.event(4, 1) * 10 + three.event(5, 1), 210);
     }
 
     private static void calls() {
@@ -245,6 +258,20 @@ public final class DoneTest {
         Checks.due("10: cursor at 0", x.count(4), 0);
         Checks.due("10: fills again", x.fills(0, 3), 1);
         Checks.due("10: its value", x.event(0, 2), 3);
+
+        NumberedRings again = Checks.told("slots 4;maker 1;maker 2;");
+        again.claims(0, 1);
+        again.claims(0, 1);
+        again.gaps(1);
+        again.undo();
+        again.undo();
+        Checks.due("10: fills ahead of what was undone", again.fills(0, 1), 1);
+        Checks.due("10: claims by another", again.claims(1, 2), 1);
+        Checks.due("10: it is open", again.event(1, 0), 0);
+        Checks.due("10: of the other", again.event(1, 1), 1);
+        again.fills(1, 1);
+        again.gaps(2);
+        Checks.due("10: cursor at the end", again.count(4), 3);
     }
 
     private static void refusedIsNotUndone() {

@@ -8,6 +8,7 @@ public final class ToldTest {
         tellsAnew();
         blanks();
         faults();
+        fullTexts();
         faultsChangeNothing();
         Checks.end();
     }
@@ -127,6 +128,10 @@ public final class ToldTest {
         fault("Slots 4;", 0);
         fault("slots\t4;", 5);
         fault("slots -4;", 6);
+        fault("slots 4:", 7);
+        fault("maker 1,", 7);
+        fault("taker x 0;", 6);
+        fault("taker 0 0;x", 6);
         fault(";", 0);
         fault("maker 1;;", 8);
         fault("4;", 0);
@@ -160,6 +165,21 @@ public final class ToldTest {
         Checks.typeAll(x, text);
         Checks.due("4: tells() of \"" + text + "\"", x.tells(), -10 - place);
         Checks.due("4: clear() of \"" + text + "\"", x.clear(), text.length());
+    }
+
+    /** Texts of 120 letters, whose last token ends where the room for letters does. */
+    private static void fullTexts() {
+        String items = "maker 1;taker 1 0;";
+        String blanks = " ".repeat(120);
+        Checks.told((items + blanks).substring(0, 120));
+        Checks.told((blanks + items).substring(items.length()));
+        fault((blanks + items + "maker").substring(items.length() + 5), 120);
+        fault((blanks + items + "make").substring(items.length() + 4), 116);
+        fault((blanks + items + "maker 9").substring(items.length() + 7), 120);
+        fault((blanks + items + "maker 99").substring(items.length() + 8), 118);
+        fault("a".repeat(120), 0);
+        fault("1".repeat(120), 0);
+        fault("maker " + "9".repeat(114), 6);
     }
 
     private static void faultsChangeNothing() {

@@ -87,6 +87,13 @@ public final class WhichTakerTest {
         apart.gaps(0);
         apart.takes(1, 1);
         Checks.due("22: apart now", apart.look(), 0);
+        NumberedRings six = Checks.told("maker 9;taker 1 0;taker 1 0;taker 1 0;taker 1 0;taker 1 0;taker 1 0;");
+        Checks.due("22: six that never part", six.look(), 0);
+        Checks.due("21: six, nothing seen", six.which(), 63);
+        for (int i = 0; i < 6; i++) {
+            six.sees(60 - i, six.done(60 - i, 5));
+        }
+        Checks.due("21: six, six seen", six.which(), 63);
     }
 
     private static void lookAmongThose() {
