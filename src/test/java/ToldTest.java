@@ -124,6 +124,12 @@ public final class ToldTest {
         fault("slots maker 1;", 6);
         fault("slot 4;", 0);
         fault("slotss 4;", 0);
+        fault("slotsz 4;", 0);
+        fault("slotsa 4;", 0);
+        fault("slots{4;", 5);
+        fault("slots`4;", 5);
+        fault("slots/4;", 5);
+        fault("slots:4;", 5);
         fault("slotsA4;", 5);
         fault("Slots 4;", 0);
         fault("slots\t4;", 5);
