@@ -4,6 +4,8 @@ import java.util.Random;
 public final class ModelTest {
     private static final int RUNS = 400;
     private static final int CALLS = 512;
+    /** A text is told only where its calls don't go beyond the last one. */
+    private static final int CALLS_OF_A_TEXT = 150;
     private static final String[] PIECES = {"slots", "maker", "taker", ";", " ", "0", "1", "3", "9", "16", "17", "99",
         "100", "00", "x", "makers", "A", "\t", ":", "{", "`", "/", "@"};
 
@@ -32,7 +34,7 @@ public final class ModelTest {
             int kind = random.nextInt(100);
             if (many && kind < 80) {
                 claims();
-            } else if (kind < 1) {
+            } else if (kind < 1 && calls + CALLS_OF_A_TEXT <= CALLS) {
                 textCalls();
             } else if (kind < 60) {
                 doCall();
